@@ -628,6 +628,16 @@ public final class PromiseTest {
         x = longHoneycomb(true);
         due("ring(0, 0, 1) of 14", x.ring(0, 0, 1), -1);
         due("ring(5, 0, 1) of 14", x.ring(5, 0, 1), -1);
+        // Its smallest ring through these two ends has 13 nodes, one too many.
+        x = new PeriodicNet();
+        x.reset(4);
+        int[][] edges = {{0, 1, 0, 0}, {1, 2, 0, 0}, {2, 3, 0, 0}, {1, 2, -1, 1}, {0, 2, 0, 0},
+            {2, 3, 0, -1}};
+        for (int[] edge : edges) {
+            x.addEdge(edge[0], edge[1], edge[2], edge[3]);
+        }
+        due("ring(2, 2, 3) of 13", x.ring(2, 2, 3), -1);
+        due("ring(2, 0, 3) of triangles", x.ring(2, 0, 3), 3);
         dueErrors("ring", x);
     }
 
