@@ -484,6 +484,28 @@ public final class DescriptionSentencesTest {
         check.due("collide(2, 3) after moveVertex", net.collide(2, 3), 1);
     }
 
+    @Sentence(in = "Description", says = "both coordinates of the difference of their positions are "
+        + "integers.")
+    static void theSumOfThePositionsDoesNotCount(Check check) {
+        // Vertices 1 and 2 are at (1/3, 1/3), vertex 3 at (2/3, 2/3), vertex 4 at (-2/3, 1/3).
+        PeriodicNet net = Nets.of(5);
+        int[][] shifts = {{1, 1}, {1, 1}, {2, 2}, {-2, 1}};
+        for (int v = 1; v <= 4; v++) {
+            int[] s = shifts[v - 1];
+            net.addEdge(v, 0, 0, s[1]);
+            net.addEdge(v, 0, s[0], 0);
+            net.addEdge(v, 0, 0, 0);
+        }
+        check.due("edges()", net.edges(), 12);
+        Nets.duePosition(check, net, 3, Nets.at(2, 3, 2, 3));
+        Nets.duePosition(check, net, 4, Nets.at(-2, 3, 1, 3));
+        check.due("collide(1, 2)", net.collide(1, 2), 1);
+        check.due("collide(1, 3)", net.collide(1, 3), 0);
+        check.due("collide(1, 4)", net.collide(1, 4), 1);
+        check.due("collide(3, 4)", net.collide(3, 4), 0);
+        check.due("collisions()", net.collisions(), 3);
+    }
+
     // ---- rings
 
     @Sentence(in = "Description", says = "the smallest ring is the least number of nodes of a "
@@ -720,6 +742,27 @@ public final class DescriptionSentencesTest {
         check.refused("addEdge(0, 0, 1, 0)", full, -4, () -> full.addEdge(0, 0, 1, 0));
         PeriodicNet fresh = new PeriodicNet();
         check.refused("undo()", fresh, -7, fresh::undo);
+    }
+
+    @Sentence(in = "Description", says = "A call that returns an error code changes nothing")
+    static void eachMethodAnswersAfterAnErrorAsBefore(Check check) {
+        PeriodicNet net = Nets.of(3, Nets.edge(0, 1, 0, 1), Nets.edge(1, 0, 1, 1),
+            Nets.edge(2, 1, 0, 1), Nets.edge(2, 2, 1, 2));
+        long[] before = Nets.answers(net);
+        long[] answers = {net.moveVertex(1, 1, 2), net.changeBasis(1), net.reset(7),
+            net.addEdge(0, 1, 3, 0), net.addEdge(0, 1, -1, -1), net.removeEdge(4)};
+        long[] want = {-5, -5, -2, -2, -3, -2};
+        for (int k = 0; k < want.length; k++) {
+            check.due("a refused call", answers[k], want[k]);
+        }
+        Nets.dueAnswers(check, net, before);
+        PeriodicNet last = Nets.of(3, Nets.edge(0, 1, 0, 1), Nets.edge(1, 0, 1, 1),
+            Nets.edge(2, 1, 0, 1), Nets.edge(2, 2, 1, 2));
+        check.due("moveVertex(1, 2, 2)", last.moveVertex(1, 2, 2), -5);
+        Nets.dueAnswers(check, last, before);
+        check.due("addEdge(0, 2, 0, 0) after an error", last.addEdge(0, 2, 0, 0), 4);
+        check.due("removeEdge(4)", last.removeEdge(4), 4);
+        Nets.dueAnswers(check, last, before);
     }
 
     @Sentence(in = "Description", says = "A call that returns an error code changes nothing")

@@ -1,3 +1,6 @@
+import java.util.ArrayList;
+import java.util.List;
+
 /** Nets that several tests use, and what they look at in common. */
 final class Nets {
     /** Numbers that are out of each range. */
@@ -138,5 +141,39 @@ final class Nets {
 
     static long[] at(long topX, long bottomX, long topY, long bottomY) {
         return new long[] {topX, bottomX, topY, bottomY};
+    }
+
+    /** What the methods that only ask answer about a connected net; at most 150 calls. */
+    static long[] answers(PeriodicNet net) {
+        List<Long> answers = new ArrayList<>();
+        int n = net.vertices();
+        for (int v = 0; v < n; v++) {
+            answers.add((long) net.degree(v));
+            answers.add((long) net.neighbour(v, 0));
+            answers.add((long) net.coordination(v, 3));
+            answers.add((long) net.distance(v, 0, 1, 1));
+            answers.add((long) net.rank(v));
+            answers.add((long) net.index(v));
+            answers.add((long) net.ring(v, 0, 1));
+            for (int axis = 0; axis < 2; axis++) {
+                answers.add(net.numerator(v, axis));
+                answers.add(net.denominator(v, axis));
+                answers.add((long) net.positionBits(v, axis));
+            }
+            answers.add((long) net.collide(v, (v + 1) % n));
+        }
+        answers.add((long) net.edges());
+        answers.add((long) net.findEdge(0, 1, 0, 1));
+        answers.add((long) net.isConnected());
+        answers.add((long) net.collisions());
+        return answers.stream().mapToLong(Long::longValue).toArray();
+    }
+
+    static void dueAnswers(Check check, PeriodicNet net, long[] want) {
+        long[] got = answers(net);
+        check.due("the number of answers", got.length, want.length);
+        for (int k = 0; k < got.length && k < want.length; k++) {
+            check.due("answer " + k + " of all that only ask", got[k], want[k]);
+        }
     }
 }

@@ -45,6 +45,25 @@ public final class StateSentencesTest {
         check.due("isConnected()", empty.isConnected(), 1);
     }
 
+    @Sentence(in = "Promise 23", says = "Restores the most recently saved state")
+    static void p23RestoresWhatEachMethodAnswers(Check check) {
+        PeriodicNet net = Nets.of(3, Nets.edge(0, 1, 0, 1), Nets.edge(1, 0, 1, 1),
+            Nets.edge(2, 1, 0, 1), Nets.edge(2, 2, 1, 2));
+        long[] before = Nets.answers(net);
+        for (int call = 0; call < 6; call++) {
+            switch (call) {
+                case 0 -> net.reset(5);
+                case 5 -> net.reset(1);
+                case 1 -> net.addEdge(2, 2, 1, -2);
+                case 2 -> net.removeEdge(3);
+                case 3 -> net.moveVertex(1, 1, -1);
+                default -> net.changeBasis(2);
+            }
+            check.due("undo()", net.undo(), 4);
+            Nets.dueAnswers(check, net, before);
+        }
+    }
+
     @Sentence(in = "Promise 23", says = "and removes it from the saved states.")
     static void p23GoesFurtherBackEachTime(Check check) {
         PeriodicNet net = new PeriodicNet();
@@ -334,12 +353,18 @@ public final class StateSentencesTest {
     @Sentence(in = "Promise 25", says = "if it is connected, for each vertex the numerator and the "
         + "denominator of the first and then of the second coordinate;")
     static void p25TakesBothCoordinatesOfEachVertex(Check check) {
-        PeriodicNet net = Nets.of(3, Nets.edge(1, 0, 2, -1), Nets.edge(1, 0, 1, -2),
+        // Vertex 1 is at (3/2, -1), vertex 2 at (3/2, 1).
+        PeriodicNet net = Nets.of(3, Nets.edge(1, 0, 2, -1), Nets.edge(1, 0, 1, -1),
             Nets.edge(2, 1, 0, 2));
         check.due("digest()", net.digest(), hash(0, 0, 0, 0, 0, 0, 3, 3,
-            1, 0, 2, -1, 1, 0, 1, -2, 2, 1, 0, 2,
+            1, 0, 2, -1, 1, 0, 1, -1, 2, 1, 0, 2,
             2, 2, 4, 2, 4, 1, -1, 3, 3, 2, 4, 2, 1, -1, 1, 1, 2, 2, 4, 1, -1,
-            1, 0, 1, 0, 1, 3, 2, -3, 2, 3, 2, 1, 2, 4));
+            1, 0, 1, 0, 1, 3, 2, -1, 1, 3, 2, 1, 1, 4));
+        net.changeBasis(0);
+        check.due("digest() under kind 0", net.digest(), hash(0, 0, 0, 0, 0, 0, 3, 3,
+            1, 0, -1, 2, 1, 0, -1, 1, 2, 1, 2, 0,
+            2, 2, 4, 2, 4, 1, -1, 3, 3, 2, 4, 2, 1, -1, 1, 1, 2, 2, 4, 1, -1,
+            1, 0, 1, 0, 1, -1, 1, 3, 2, 1, 1, 3, 2, 5));
     }
 
     @Sentence(in = "Promise 25", says = "the number of saved states.")
